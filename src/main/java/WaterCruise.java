@@ -1257,9 +1257,9 @@ public final class WaterCruise {
         private final int[] leastEnds = new int[SETS * STATION_ROOM];
 
         void clear(int stations) {
-            size = Math.min(stations, STATION_ROOM);
+            size = Math.max(0, Math.min(stations, STATION_ROOM));
             Arrays.fill(aheadOf, 0);
-            Arrays.fill(leastEnds, Integer.MAX_VALUE);
+            Arrays.fill(leastEnds, 0, (1 << size) * STATION_ROOM, Integer.MAX_VALUE);
             bestWorth = 0;
             bestEnd = 0;
             bestSize = 0;

@@ -326,6 +326,17 @@ final class LinesTest {
         fault("take 0001;", 1, 5);
         fault("takes 1;", 1, 0);
         fault("Take 1;", 1, 0);
+        fault("takez 1;", 1, 0);
+        fault("atake 1;", 1, 0);
+        fault("take`1;", 1, 4);
+        fault("take{1;", 1, 4);
+        fault("take/1;", 1, 4);
+        fault("take:1;", 1, 4);
+        fault("take 9 when left<9;", 0, -1);
+        fault(";".repeat(160), 1, 0);
+        fault(" ".repeat(153) + "take 1;", 0, -1);
+        fault("take 1;" + " ".repeat(153), 0, -1);
+        fault("take 1" + " ".repeat(154), 1, 160);
         fault("take 1;\n", 1, 7);
         fault("take 1;\u00ff", 1, 7);
         fault("take 1; ;", 1, 8);

@@ -297,6 +297,12 @@ final class PromiseTest {
         Check.done("16 a loose one", w, w.use(60, false), 249);
         Check.due("14 water ever", w.water(0, 1), 32);
         Check.due("14 all places taken", w.box(0, 0), 0);
+        for (int place = 0; place < 60; place++) {
+            Check.due("25 box by box", w.box(place / 12, place % 12), place);
+        }
+        Check.due("25 no place 12", w.box(0, 12), -1);
+        Check.due("25 no place 13", w.box(0, 13), -1);
+        Check.due("25 no place below", w.box(1, -1), -1);
     }
 
     private static void promise15Rest() {
@@ -485,6 +491,28 @@ final class PromiseTest {
         Check.due("23 no cast", w.bottleTold(6, 0, 0), -1);
         Check.due("23 no bottles cast", w.bottleTold(0, 0, 0), -1);
         Check.due("23 another", w.bottleTold(1, 0, -1), -1);
+    }
+
+    /** A MINUTE begins with each full number of the table, for the way down and for that up. */
+    private static void promise22Minutes() {
+        int[] by = {60, 60, 30, 90, 90};
+        int[] more = {0, 0, 0, 15, 45};
+        for (int kind = 0; kind < 5; kind++) {
+            for (int n = 1; n * by[kind] < 900; n++) {
+                WaterCruise w = withStations(n * by[kind], n * by[kind] + 1);
+                w.cast(kind, 0, n * by[kind]);
+                w.cast(kind, 1, n * by[kind] + 1);
+                Check.due("22 full, kind " + kind, w.castTold(0, 3), 2 * n + more[kind]);
+                Check.due("22 begun, kind " + kind, w.castTold(1, 3), 2 * n + 2 + more[kind]);
+            }
+        }
+        WaterCruise w = withStations(900);
+        w.cast(2, 0, 900);
+        Check.due("21 60 minutes", w.stationTold(0, 8), 1);
+        for (int i = 0; i < 12; i++) {
+            w.rest(i < 11 ? 1000 : 940);
+        }
+        Check.done("14 up to the last minute", w, w.does(0), 12000);
     }
 
     private static void promise27Mean() {
@@ -757,6 +785,7 @@ final class PromiseTest {
         promise18Readings();
         promise21StationTold();
         promise22And23Told();
+        promise22Minutes();
         promise27Mean();
         promise28Count();
         promise29And30Act();
