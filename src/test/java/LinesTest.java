@@ -353,6 +353,10 @@ final class LinesTest {
         fault("take 1 when not not not not not hour=1;", 0, -1);
         fault("take 1 when not not not not not not hour=1;", 1, 36);
         fault("take 1 when ((((((hour=1))))));", 1, 18);
+        fault("take 1 when not not not not not not;", 1, 35);
+        fault("take 1 when not not not not not not and left=1;", 1, 36);
+        fault("take 1 when (((((())))));", 1, 18);
+        fault("take 1 when not not not not not not", 1, 35);
         fault("take 1 when (((((hour=1)))));", 0, -1);
         fault("take 1 when not(not(not(not hour=1)));", 1, 24);
         fault("take 1 when not(not(not hour=1)) and not not not not not left<1;", 0, -1);

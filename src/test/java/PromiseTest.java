@@ -515,6 +515,54 @@ final class PromiseTest {
         Check.done("14 up to the last minute", w, w.does(0), 12000);
     }
 
+    /** With every room full: what lies just behind the last one is none such, and sums take in the last one. */
+    private static void fullRooms() {
+        WaterCruise w = withStations(90, 90, 90, 90, 90, 90, 90, 90);
+        for (int i = 0; i < 8; i++) {
+            w.hand(9 - i);
+            Check.lines(w, i, "take 1;");
+        }
+        for (int i = 0; i < 29; i++) {
+            w.cast(0, 0, 60);
+        }
+        w.cast(4, 7, 0);
+        Check.due("21 lasts with all casts", w.stationTold(0, 8), 1);
+        Check.due("21 lasts with the last cast", w.stationTold(7, 8), 1);
+        Check.due("21 nearest of all", w.stationTold(7, 9), 0);
+        Check.due("19 plan with all", w.plan(2), 8);
+        w.does(29);
+        Check.due("28 left with all casts", w.count(9), 1);
+        Check.due("28 lines with all hands", w.count(11), 8);
+        Check.due("21 none behind", w.stationTold(8, 0), NO);
+        Check.due("22 none behind", w.castTold(30, 0), -1);
+        Check.due("23 none behind", w.bottleTold(30, 0, 0), -1);
+        Check.due("26 none behind", w.water(8, 0), -1);
+        Check.due("27 none behind", w.mean(30, 0, 0, 2), NO);
+        Check.refused("3 none behind", w, w.window(8, 0, 1, 0), 1);
+        Check.refused("4 none behind", w, w.ahead(0, 8), 1);
+        Check.refused("7 none behind", w, w.cast(0, 8, 1), 1);
+        Check.refused("12 none behind", w, w.lines(8), 1);
+        Check.refused("14 none behind", w, w.does(30), 1);
+        Check.refused("17 none behind", w, w.takeUp(30), 1);
+        Check.refused("18 none behind", w, w.readings(30, 0), 1);
+        Check.refused("29 none behind", w, w.act(30, 0, 0), 1);
+        Check.done("17 the last", w, w.takeUp(29), 0);
+    }
+
+    private static void promise27FewerReadings() {
+        WaterCruise w = withStations(900);
+        w.cast(0, 0, 900);
+        w.does(0);
+        for (int n : new int[] {91, 2}) {
+            w.sheet(0, 2, n);
+            for (int i = 0; i < n; i++) {
+                w.cell(0, i, 8);
+            }
+            w.readings(0, 0);
+            mean(w, 0, 900, 1, 1, n, 0);
+        }
+    }
+
     private static void promise27Mean() {
         WaterCruise w = withStations(900);
         w.cast(0, 0, 100);
@@ -786,6 +834,8 @@ final class PromiseTest {
         promise21StationTold();
         promise22And23Told();
         promise22Minutes();
+        fullRooms();
+        promise27FewerReadings();
         promise27Mean();
         promise28Count();
         promise29And30Act();
