@@ -1239,6 +1239,8 @@ public final class WaterCruise {
         static final int START = STATION_ROOM;
         private static final int HOUR_ROOM = LAST_HOUR + 2;
         private static final int SETS = 1 << STATION_ROOM;
+        /** Behind every END there can be. */
+        private static final int NEVER = LAST_HOUR + 2;
 
         boolean stale = true;
         int bestWorth = 0;
@@ -1259,7 +1261,7 @@ public final class WaterCruise {
         void clear(int stations) {
             size = Math.max(0, Math.min(stations, STATION_ROOM));
             Arrays.fill(aheadOf, 0);
-            Arrays.fill(leastEnds, 0, (1 << size) * STATION_ROOM, Integer.MAX_VALUE);
+            Arrays.fill(leastEnds, 0, (1 << size) * STATION_ROOM, NEVER);
             bestWorth = 0;
             bestEnd = 0;
             bestSize = 0;

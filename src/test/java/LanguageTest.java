@@ -93,7 +93,17 @@ final class LanguageTest {
         while (imports.find()) {
             Check.due("import " + imports.group(1), imports.group(1).equals("java.util.Arrays"));
         }
+        library(code);
         methodLengths(source.split("\n"));
+    }
+
+    /** Rule 4 as far as the class needs it: static functions alone, and no text but constants that are looked at. */
+    private static void library(String code) {
+        Set<String> may = Set.of("Arrays.fill(", "System.arraycopy(", "Math.max(", "Math.min(", "Math.abs(", "Math.floorMod(");
+        Matcher used = Pattern.compile("\\b(Arrays|System|Math|Integer|Long|String|Character|Boolean|Byte)\\.\\w+\\(?").matcher(code);
+        while (used.find()) {
+            Check.due("the library's " + used.group(), may.contains(used.group()));
+        }
     }
 
     private static void methodLengths(String[] lines) {

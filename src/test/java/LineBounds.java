@@ -30,6 +30,8 @@ final class LineBounds {
         r.refused("feed(0, 32)", 1).refused("feed(9, 32)", 1).asks("count(6)", 160);
         r.make("hand(0)").asks("count(6)", 160);
         fails("THE TAPE (160 bytes at most)", BLANKS.substring(0, 159) + ";", 1, 159);
+        fails("THE TAPE (160 bytes at most)", ";".repeat(160), 1, 0);
+        fails("THE TAPE (160 bytes at most)", "take 1 when " + "(".repeat(148), 1, 18);
         stands("THE TAPE (160 bytes at most)", BLANKS.substring(0, 153) + "take 1;", 1);
         stands("THE TAPE (160 bytes at most)", "take 1;" + BLANKS.substring(0, 153), 1);
         stands("THE TAPE (160 bytes at most)", BLANKS, 0);
@@ -119,6 +121,28 @@ final class LineBounds {
         fails(sentence, "take 1 when z=1;", 1, 12);
         stands(sentence, "take1when left=1and depth<2or hour=3;", 1);
         stands(sentence, "take 1 when not(left=1)and(hour<1)or(not depth=1);", 1);
+    }
+
+    /** Each KEY where it may stand, then with one letter of it another one, one too few and one too many. */
+    private static void terms3EachLetterOfAKey() {
+        String sentence = "KEYS take when and or not station depth left hour";
+        String[] keys = {"take", "when", "and", "or", "not", "station", "depth", "left", "hour"};
+        String[] heads = {"", "take 1 ", "take 1 when left=1 ", "take 1 when left=1 ", "take 1 when ", "take 1 when ", "take 1 when ",
+            "take 1 when ", "take 1 when "};
+        String[] behind = {" 1;", " left=1;", " left=1;", " left=1;", " left=1;", "=1;", "=1;", "=1;", "=1;"};
+        for (int i = 0; i < keys.length; i++) {
+            String key = keys[i];
+            stands(sentence, heads[i] + key + behind[i], 1);
+            for (int at = 0; at < key.length(); at++) {
+                String other = key.substring(0, at) + "q" + key.substring(at + 1);
+                fails(sentence, heads[i] + other + behind[i], 1, heads[i].length());
+            }
+            fails(sentence, heads[i] + key.substring(1) + behind[i], 1, heads[i].length());
+            fails(sentence, heads[i] + key.substring(0, key.length() - 1) + behind[i], 1, heads[i].length());
+            fails(sentence, heads[i] + key + "a" + behind[i], 1, heads[i].length());
+            fails(sentence, heads[i] + key + "z" + behind[i], 1, heads[i].length());
+            fails(sentence, heads[i] + key.toUpperCase() + behind[i], 1, heads[i].length());
+        }
     }
 
     private static void terms3EachKeyInItsPlace() {
@@ -226,6 +250,28 @@ final class LineBounds {
         holds(sentence, "(" + yes + " and (" + yes + " and (" + yes + " and (" + yes + " and (" + yes + " and " + no + ")))))", false);
     }
 
+    private static void terms3AllOfThree() {
+        String sentence = "OR: AND { or AND }. AND: NOT { and NOT }. NOT: not NOT, ( OR ), or VALUE";
+        for (int bits = 0; bits < 8; bits++) {
+            boolean a = (bits & 1) == 1;
+            boolean b = (bits & 2) == 2;
+            boolean c = (bits & 4) == 4;
+            String x = a ? "left=10" : "left=0";
+            String y = b ? "depth=0" : "depth=1";
+            String z = c ? "hour<1" : "hour<0";
+            holds(sentence, x + " or " + y + " and " + z, a || b && c);
+            holds(sentence, x + " and " + y + " or " + z, a && b || c);
+            holds(sentence, "(" + x + " or " + y + ") and " + z, (a || b) && c);
+            holds(sentence, x + " and (" + y + " or " + z + ")", a && (b || c));
+            holds(sentence, x + " or (" + y + " and " + z + ")", a || b && c);
+            holds(sentence, x + " or " + y + " or " + z, a || b || c);
+            holds(sentence, x + " and " + y + " and " + z, a && b && c);
+            holds(sentence, "not " + x + " and not " + y + " or not " + z, !a && !b || !c);
+            holds(sentence, "not (" + x + " or " + y + " and not " + z + ")", !(a || b && !c));
+            holds(sentence, x + " and not (not " + y + " or " + z + ")", a && !(!b || c));
+        }
+    }
+
     /** The only SAMPLE of the first BOTTLE (DEPTH 0, shut at MINUTE 2) comes by the condition, or there is none. */
     private static void holds(String sentence, String condition, boolean is) {
         Run r = withHand("Terms 3", sentence).lines(0, "take 3 when " + condition + ";", 1);
@@ -318,6 +364,11 @@ final class LineBounds {
         r.make("cast(1, 0, 1)", "bottle(0, 0)", "does(0)").asks("count(3)", 2).asks("sample(0, 3)", 7).asks("sample(0, 9)", 0);
         r.asks("sample(1, 3)", 2).asks("sample(1, 9)", 0).asks("sample(1, 0)", 1);
         r.lines(1, "take 6;", 1).asks("fault(0)", 0).asks("fault(1)", -1);
+        Run later = withHand("Terms 3", "A text with a FAULT changes nothing but THE TAPE.");
+        later.fault(0, "take 1 when left=0;take 2 when left=1 and;", 1, 41).lines(0, "take 3;take 4;", 2);
+        later.make("cast(1, 0, 1)", "bottle(0, 0)", "does(0)").asks("count(3)", 1).asks("sample(0, 3)", 3).asks("sample(0, 9)", 0);
+        later.lines(0, "take 5 when left=0;", 1).lines(0, "take 6;", 1);
+        later.make("cast(1, 0, 1)", "bottle(1, 0)", "does(1)").asks("count(3)", 2).asks("sample(1, 3)", 6).asks("sample(1, 9)", 0);
     }
 
     private static void holdsFor(String condition, int station, int castDepth, int depth, int rest, boolean is) {
@@ -432,11 +483,13 @@ final class LineBounds {
         terms3ThirteenthLine();
         terms3FourValues();
         terms3KeysAndLetters();
+        terms3EachLetterOfAKey();
         terms3EachKeyInItsPlace();
         terms3Blanks();
         terms3LinesTwelveAtMost();
         terms3ALine();
         terms3OrAndNot();
+        terms3AllOfThree();
         terms3EndsTooEarly();
         terms3FirstThatCanNotStand();
         terms3SixOthers();

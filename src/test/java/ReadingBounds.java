@@ -103,6 +103,16 @@ final class ReadingBounds {
         others.done("readings(0, 0)", 4).asks("mean(0, 30, 30, 0)", 1).done("readings(0, 1)", 2).asks("mean(0, 30, 30, 2)", 0);
         others.asks("mean(0, 0, 0, 3)", 1).asks("mean(0, 10, 10, 0)", 2).asks("mean(0, 0, 900, 2)", 1);
         others.done("readings(0, 0)", 4).asks("mean(0, 0, 0, 0)", 1).asks("mean(0, 10, 10, 0)", 0).asks("mean(0, 0, 900, 3)", 0);
+        Run fewer = doneCast("Promise 18", "(in place of others)", 900).make("sheet(0, 2, 91)", "sheet(1, 2, 90)");
+        for (int i = 0; i < 91; i++) {
+            fewer.make("cell(0, " + i + ", 8)");
+        }
+        fewer.make("readings(0, 0)");
+        mean(fewer, 0, 900, 1, 1, 91, 0);
+        mean(fewer, 0, Integer.MAX_VALUE, 1, 1, 91, 0);
+        fewer.make("readings(0, 1)");
+        mean(fewer, 0, 900, 0, 1, 90, 0);
+        mean(fewer, 900, Integer.MAX_VALUE, NO, NO, 0, 0);
         others.make("cell(0, 0, 80)", "sheet(1, -1, 0)").asks("mean(0, 0, 0, 0)", 1).asks("castTold(0, 6)", 4);
     }
 
