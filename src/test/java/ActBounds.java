@@ -174,6 +174,22 @@ final class ActBounds {
         r.done("forge(6, 99, 100)", 1).done("forge(6, -99, -100)", 1);
     }
 
+    /** With CASTS that are DONE, READINGS, SAMPLES, THE TRACE and all sorts of SHEETS. */
+    private static void promise34ChangesNothing() {
+        Run r = allKinds("Promise 34", "What the host does, by what").make("hand(0)").lines(0, "take 3;", 1);
+        r.make("sheet(2, 2, 3)", "cell(2, 1, 9)", "none(2, 2)", "does(0)", "does(1)", "does(4)", "readings(0, 2)", "readings(1, 2)", "readings(4, 2)");
+        r.make("sheet(0, 0, 4)", "cell(0, 1, 5)", "cell(0, 2, 6)", "sheet(1, 1, 4)", "cell(1, 1, 7)", "act(4, 3, 9)", "rest(100)");
+        for (int k = 0; k < 6; k++) {
+            r.keeps("forge(0, 0, " + k + ")", k);
+        }
+        r.refused("forge(0, 2, 0)", 11).refused("forge(0, 1, 4)", 11).keeps("forge(0, 3, 4)", 4).refused("forge(0, 0, 6)", 10);
+        r.keeps("forge(1, 100, 0)", 100).refused("forge(1, -1, 0)", 13).keeps("forge(2, 1, 1)", 7).refused("forge(2, 4, 1)", 12);
+        r.refused("forge(2, 1, 0)", 11).refused("forge(2, 1, 2)", 11).refused("forge(2, 1, 3)", 10);
+        r.keeps("forge(3, 0, 0)", 0).keeps("forge(3, 2, 0)", 11).refused("forge(3, 4, 0)", 12).refused("forge(3, 1, 2)", 11).refused("forge(3, 1, 3)", 10);
+        r.keeps("forge(4, 0, 3)", 3).keeps("forge(4, 0, 4)", 4).keeps("forge(4, 0, 6)", 0).refused("forge(4, 0, 0)", 14).refused("forge(4, 0, 1)", 14);
+        r.keeps("forge(5, 3, 0)", 333).refused("forge(5, 0, 0)", 15).keeps("forge(6, 1, 0)", 1).refused("forge(6, 0, 0)", 10).refused("forge(7, 0, 0)", 1);
+    }
+
     private static void promise34Kinds() {
         String sentence = "0 CAST k modulo 30 is taken for one whose KIND is n modulo 6 (also for numbers below 0) or one under that one "
             + "(also by others between): 10 (there is no such CAST), 11; answers its KIND.";
@@ -302,6 +318,7 @@ final class ActBounds {
         promise29Act();
         promise30Trace();
         promise34HundredEachWay();
+        promise34ChangesNothing();
         promise34Kinds();
         promise34Rows();
         promise34Shorts();

@@ -156,6 +156,9 @@ final class CastBounds {
         r.make("rest(1)").done("does(1)", 5).asks("castTold(1, 5)", 3).refused("does(1)", 3);
         r.done("does(2)", 5).asks("castTold(2, 5)", 5).refused("does(2)", 3);
         r.asks("castTold(0, 5)", 0);
+        Run parted = withStation("Terms 2", "A CAST is DONE once: it begins at THE MINUTE", 60).make("hand(0)").lines(0, "take 4;", 1);
+        parted.make("cast(1, 0, 60)", "bottle(0, 60)", "bottle(0, 0)", "cast(4, 0, 0)", "does(0)", "does(1)", "takeUp(1)", "use(0, false)");
+        parted.refused("does(0)", 3).refused("does(1)", 3).asks("bottleTold(0, 0, 3)", 6).asks("count(3)", 2).asks("count(9)", 0);
     }
 
     private static void terms2MinuteBecomes() {

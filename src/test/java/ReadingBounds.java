@@ -95,6 +95,7 @@ final class ReadingBounds {
         r.make("sheet(2, 0, 1)").refused("readings(0, 2)", 11).refused("readings(1, 2)", 11);
         r.refused("readings(0, 0)", 3).make("sheet(2, 2, 0)").refused("readings(0, 2)", 3);
         r.done("readings(1, 0)", 2).asks("castTold(1, 6)", 2).asks("castTold(0, 6)", 0);
+        r.refused("readings(1, 3)", 10).make("sheet(3, 1, 1)").refused("readings(1, 3)", 11).refused("readings(1, 4)", 1);
         r.refused("readings(1, 1)", 12).asks("castTold(1, 6)", 2).done("readings(1, 2)", 0).asks("castTold(1, 6)", 0);
         r.make("does(0)").done("readings(0, 0)", 2).done("readings(0, 0)", 2);
 

@@ -42,6 +42,14 @@ final class Run {
         return this;
     }
 
+    /** A call that is done and answers so, and changes nothing. */
+    Run keeps(String text, int answer) {
+        List<Call> with = new ArrayList<>(calls);
+        with.add(Call.of(text));
+        Replay.compare(name, calls, with, true, text);
+        return done(text, answer);
+    }
+
     /** A question: it answers so, and leaves the STATUS. */
     Run asks(String text, int answer) {
         Call call = Call.of(text);
@@ -62,6 +70,29 @@ final class Run {
         with.add(call);
         Replay.compare(name, calls, with, true, text);
         return this;
+    }
+
+    /** A new object with the calls so far and this one behind them, which leaves this STATUS; to be asked. */
+    Behind behind(String text, int status) {
+        Behind behind = new Behind(name + "behind " + text + ", ", Replay.of(calls));
+        behind.w.ask(text);
+        return behind.asks("status()", status);
+    }
+
+    /** Questions to one object, one behind the other. */
+    static final class Behind {
+        private final String name;
+        private final Replay w;
+
+        private Behind(String name, Replay w) {
+            this.name = name;
+            this.w = w;
+        }
+
+        Behind asks(String text, int answer) {
+            Check.due(name + text, w.ask(text), answer);
+            return this;
+        }
     }
 
     /** A text that is taken as the LINES of a HAND. */

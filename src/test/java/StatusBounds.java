@@ -2,10 +2,11 @@
 final class StatusBounds {
     private static final int NO = WaterCruise.NO;
 
-    /** A question with an answer that is none, for each question of the face. */
-    private static final String[] QUESTIONS = {"fault(2)", "plan(3)", "planned(9, 0)", "stationTold(9, 0)", "castTold(99, 0)",
+    private static final String[] QUESTIONS = {"fault(0)", "plan(0)", "planned(0, 1)", "stationTold(0, 0)", "castTold(1, 4)", "bottleTold(1, 0, 3)",
+        "sample(0, 0)", "box(0, 0)", "water(7, 1)", "mean(0, 0, 0, 0)", "count(2)", "trace(0)"};
+    private static final int[] ANSWERS = {2, 60, 2, 7, 1, 6, 7, 0, 4, 3, 8, 12};
+    private static final String[] NONE_SUCH = {"fault(2)", "plan(3)", "planned(9, 0)", "stationTold(9, 0)", "castTold(99, 0)",
         "bottleTold(0, 9, 0)", "sample(999, 0)", "box(9, 9)", "water(9, 0)", "mean(99, 0, 0, 0)", "count(12)", "trace(99)"};
-    private static final int[] NONE_SUCH = {-1, -1, -1, NO, -1, -1, -1, -1, -1, NO, -1, -1};
 
     private StatusBounds() {
     }
@@ -44,39 +45,29 @@ final class StatusBounds {
         r.asks("castTold(1, 0)", -1).asks("bottleTold(0, 0, 0)", -1).asks("sample(0, 0)", -1);
     }
 
+    /** Each question behind each STATUS, once with an answer and once with none such. */
     private static void questionsLeaveIt() {
-        Run r = new Run("Terms STATUS", "STATUS of the latest call that is no question (station, window, ahead, fit, speed, cast, bottle, fail, hand, "
-            + "feed, lines, does, rest, use, takeUp, readings, sheet, cell, none, act, forge)");
-        r.make("station(0, 0, 1, 1)");
-        for (int i = 0; i < QUESTIONS.length; i++) {
-            r.asks(QUESTIONS[i], NONE_SUCH[i]);
-        }
-        int[] statuses = {1, 2, 3, 10, 11, 12, 13, 14, 15};
-        for (int status : statuses) {
-            for (int i = 0; i < QUESTIONS.length; i++) {
-                WaterCruise w = withStatus(status);
-                Check.due("Terms STATUS, " + QUESTIONS[i] + " behind STATUS " + status, Call.of(QUESTIONS[i]).on(w), NONE_SUCH[i]);
-                Check.due("Terms STATUS, status() behind " + QUESTIONS[i], w.status(), status);
-                Check.due("Terms STATUS, status() behind status()", w.status(), status);
+        String sentence = "STATUS of the latest call that is no question (station, window, ahead, fit, speed, cast, bottle, fail, hand, "
+            + "feed, lines, does, rest, use, takeUp, readings, sheet, cell, none, act, forge)";
+        String[] last = {"speed(5)", "speed(0)", "hand(0)", "does(0)", "none(1, 0)", "none(0, 0)", "cell(0, 1, 0)", "forge(1, -1, 0)",
+            "forge(4, 0, 0)", "forge(5, 0, 0)"};
+        int[] statuses = {0, 1, 2, 3, 10, 11, 12, 13, 14, 15};
+        for (int i = 0; i < last.length; i++) {
+            Run.Behind w = fullOfAnswers(sentence).behind(last[i], statuses[i]);
+            for (int k = 0; k < QUESTIONS.length; k++) {
+                w.asks(QUESTIONS[k], ANSWERS[k]).asks(NONE_SUCH[k], k == 3 || k == 9 ? NO : -1).asks("status()", statuses[i]);
             }
         }
     }
 
-    /** An object whose latest call was refused so. */
-    private static WaterCruise withStatus(int status) {
-        WaterCruise w = new WaterCruise();
-        w.station(0, 0, 1, 1);
-        w.cast(0, 0, 1);
-        w.sheet(0, 1, 1);
-        w.does(0);
+    /** An object that has an answer to each of the questions. */
+    private static Run fullOfAnswers(String sentence) {
+        Run r = new Run("Terms STATUS", sentence).make("station(7, 0, 1, 60)");
         for (int i = 0; i < 8; i++) {
-            w.hand(0);
+            r.make("hand(" + (8 - i) + ")");
         }
-        String[] calls = {"speed(0)", "hand(0)", "does(0)", "none(1, 0)", "none(0, 0)", "cell(0, 1, 0)", "forge(1, -1, 0)", "forge(4, 0, 0)", "forge(5, 0, 0)"};
-        int which = status < 10 ? status - 1 : status - 7;
-        Check.due("Terms STATUS, " + calls[which], Call.of(calls[which]).on(w), -1);
-        Check.due("Terms STATUS, status() behind " + calls[which], w.status(), status);
-        return w;
+        r.lines(7, "take 4;", 1).fault(6, "take 0;", 2, 5).make("cast(0, 0, 1)", "cast(1, 0, 1)", "bottle(1, 1)", "does(0)", "does(1)");
+        return r.make("sheet(1, 2, 1)", "cell(1, 0, 3)", "readings(0, 1)", "act(0, 2, 0)", "sheet(0, 1, 1)", "sheet(1, -1, 0)");
     }
 
     /** Each call that is no question: done it sets STATUS 0 behind a refused one, refused its own behind a done one. */
@@ -113,6 +104,38 @@ final class StatusBounds {
             Call.of(call).on(w);
         }
         return w;
+    }
+
+    /** Each call with each of its numbers at the ends of int, below 0 and far above: none throws; a number outside all bounds is STATUS 1. */
+    private static void endsOfInt() {
+        String sentence = "1 a number is none such or outside what is told";
+        Sentences.hold("Terms STATUS", sentence);
+        String[] numbers = {"MIN", "-1", "0", "2", "300", "MAX"};
+        String[] calls = {"station 4", "window 4", "ahead 2", "fit 2 true", "fit 2 false", "speed 1", "cast 3", "bottle 2", "fail 2", "hand 1",
+            "feed 2", "lines 1", "does 1", "rest 1", "use 1 true", "use 1 false", "takeUp 1", "readings 2", "sheet 3", "cell 3", "none 2", "act 3",
+            "forge 3", "fault 1", "plan 1", "planned 2", "stationTold 2", "castTold 2", "bottleTold 3", "sample 2", "box 2", "water 2", "mean 4",
+            "count 1", "trace 1"};
+        for (int i = 0; i < calls.length; i++) {
+            String[] words = calls[i].split(" ");
+            int many = Integer.parseInt(words[1]);
+            for (int which = 0; which < Math.pow(numbers.length, many); which++) {
+                StringBuilder text = new StringBuilder(words[0]).append('(');
+                for (int at = 0, rest = which; at < many; at++, rest /= numbers.length) {
+                    String number = numbers[rest % numbers.length];
+                    text.append(at == 0 ? "" : ", ").append(words[0].equals("feed") && at == 1 ? "" + Long.MIN_VALUE : number);
+                }
+                text.append(words.length > 2 ? ", " + words[2] : "").append(')');
+                WaterCruise w = someOfEach();
+                int answer = Call.of(text.toString()).on(w);
+                String name = "Terms STATUS, \"" + sentence + "\": " + text;
+                if (i >= 23) {
+                    Check.due(name + " leaves the STATUS", w.status(), 0);
+                } else if (w.status() != 0) {
+                    Check.due(name, answer, -1);
+                    Check.due(name + " is refused", w.status() <= 3 || w.status() >= 10 && w.status() <= 15);
+                }
+            }
+        }
     }
 
     private static void lowestHolds() {
@@ -188,6 +211,7 @@ final class StatusBounds {
         constants();
         questionsLeaveIt();
         eachCallSetsIt();
+        endsOfInt();
         lowestHolds();
         whatTheStatusesSay();
         promise28Count();

@@ -34,6 +34,12 @@ final class WaterBounds {
         }
         r.refused("lines(7)", 1).asks("water(7, 0)", -1).done("hand(7)", 7).refused("hand(7)", 2).asks("count(2)", 8);
         r.asks("water(7, 0)", 0).asks("water(8, 0)", -1).done("lines(7)", 0).refused("lines(8)", 1).refused("lines(-1)", 1);
+        Run full = withStation("Terms 2", "HANDS (8 at most, numbered from 0)");
+        for (int i = 0; i < 8; i++) {
+            hand(full, i, 8 - i, "take " + (i < 2 ? 2 : 1) + ";");
+        }
+        full.refused("hand(9)", 2).refused("hand(0)", 2).refused("hand(10)", 1).asks("count(11)", 8);
+        bottles(full, 0, 1).make("does(0)").asks("count(3)", 8).asks("sample(0, 0)", 7).asks("sample(7, 0)", 0).asks("sample(7, 3)", 2);
     }
 
     private static void terms2Spoil() {
