@@ -106,7 +106,7 @@ final class StatusBounds {
         return w;
     }
 
-    /** Each call with each of its numbers at the ends of int, below 0 and far above: none throws; a number outside all bounds is STATUS 1. */
+    /** Each call with each of its numbers at the ends of int, below 0 and far above: none throws, and a refused one answers -1. */
     private static void endsOfInt() {
         String sentence = "1 a number is none such or outside what is told";
         Sentences.hold("Terms STATUS", sentence);
