@@ -5,15 +5,8 @@ import java.util.Map;
 /** One call of WaterCruise as the tests write it: "cast(0, 1, 60)"; MIN and MAX are the ends of int. */
 final class Call {
     private static final Map<String, Call> KNOWN = new HashMap<>();
-    private static final Map<String, Method> METHODS = new HashMap<>();
-
-    static {
-        for (Method m : WaterCruise.class.getMethods()) {
-            if (m.getDeclaringClass() == WaterCruise.class) {
-                METHODS.put(m.getName(), m);
-            }
-        }
-    }
+    private static final Map<String, Method> METHODS = methodsOf(WaterCruise.class);
+    private static final Map<String, Method> SECOND = methodsOf(SecondReading.class);
 
     final String text;
     private final Method method;
@@ -35,6 +28,21 @@ final class Call {
         }
     }
 
+    private static Map<String, Method> methodsOf(Class<?> c) {
+        Map<String, Method> methods = new HashMap<>();
+        for (Method m : c.getMethods()) {
+            if (m.getDeclaringClass() == c) {
+                methods.put(m.getName(), m);
+            }
+        }
+        return methods;
+    }
+
+    /** One that won't be asked for again. */
+    static Call make(String text) {
+        return new Call(text);
+    }
+
     static Call of(String text) {
         return KNOWN.computeIfAbsent(text, Call::new);
     }
@@ -44,14 +52,22 @@ final class Call {
             return Boolean.valueOf(part);
         }
         if (type == long.class) {
-            return Long.valueOf(part);
+            return Long.decode(part.replaceAll("L$", ""));
         }
         return part.equals("MIN") ? Integer.MIN_VALUE : part.equals("MAX") ? Integer.MAX_VALUE : Integer.valueOf(part);
     }
 
     int on(WaterCruise w) {
+        return answer(method, w);
+    }
+
+    int on(SecondReading second) {
+        return answer(SECOND.get(method.getName()), second);
+    }
+
+    private int answer(Method m, Object object) {
         try {
-            return (Integer) method.invoke(w, arguments);
+            return (Integer) m.invoke(object, arguments);
         } catch (ReflectiveOperationException e) {
             throw new IllegalStateException(text, e);
         }
